@@ -1,4 +1,4 @@
-/** A maze of gates that forgets inputs. The promises are in the document beside the project, ../shared/DOC.md. */
+/** A maze of gates that forgets inputs; ../shared/DOC.md, beside the project, says what each call promises. */
 public final class GateMaze {
     /** There is nothing to return. */
     public static final int NONE = -1;
@@ -257,8 +257,12 @@ public final class GateMaze {
 
     // ---- what the face is made of
 
+    private static boolean isOutput(int output) {
+        return output >= 0 && output < OUTPUTS;
+    }
+
     private static void checkOutput(int output) throws IndexOutOfBoundsException {
-        if (output < 0 || output >= OUTPUTS) {
+        if (!isOutput(output)) {
             throw new IndexOutOfBoundsException("no such output");
         }
     }
@@ -490,10 +494,6 @@ public final class GateMaze {
                 alarms[output] = other.alarms[output];
                 faults[output] = other.faults[output];
             }
-        }
-
-        private static boolean isOutput(int output) {
-            return output >= 0 && output < OUTPUTS;
         }
 
         static int sum(int[] numbers) {
@@ -769,22 +769,24 @@ public final class GateMaze {
         private void findBad(int remembered, long decidedZero) {
             // Downward, so that what cares for one input more is there already.
             for (int cares = INPUT_SETS - 1; cares >= 0; cares--) {
-                int unused = remembered & ~cares;
-                int lowest = unused & -unused;
-                if (unused == 0) {
-                    bad[cares] = decidedZero;
-                } else if (cares + lowest < INPUT_SETS) {
-                    bad[cares] = Rows.alikeTo(bad[cares + lowest], lowest);
+                if ((cares & ~remembered) == 0) {
+                    int unused = remembered & ~cares;
+                    int lowest = unused & -unused;
+                    bad[cares] = unused == 0 ? decidedZero : Rows.alikeTo(badWith(cares | lowest), lowest);
                 }
             }
         }
 
+        private long badWith(int cares) {
+            return cares >= 0 && cares < INPUT_SETS ? bad[cares] : -1L;
+        }
+
         private void addWith(int inputs, int cares) {
-            long prime = ~bad[cares];
+            long prime = ~badWith(cares);
             for (int input = 0; input < inputs; input++) {
                 int withoutIt = cares & ~(1 << input);
                 if (withoutIt != cares) {
-                    prime &= bad[withoutIt];
+                    prime &= badWith(withoutIt);
                 }
             }
             for (int values = 0; values <= cares && prime != 0; values++) {
@@ -849,6 +851,9 @@ public final class GateMaze {
         }
 
         private void coverWith(Primes primes, int output) {
+            if (!isOutput(output)) {
+                return;
+            }
             long left = ones[output];
             long covered = 0L;
             int size = 0;
@@ -898,10 +903,6 @@ public final class GateMaze {
             return holders;
         }
 
-        private static boolean isOutput(int output) {
-            return output >= 0 && output < OUTPUTS;
-        }
-
         int sizeOf(int output) {
             return isOutput(output) ? sizes[output] : 0;
         }
@@ -916,10 +917,10 @@ public final class GateMaze {
 
         /** The code of a cover's product; NONE if the cover has not so many. */
         private int codeAt(int output, int place) {
-            if (place < 0 || place >= MOST_ROWS || place >= sizeOf(output)) {
+            if (!isOutput(output) || place < 0 || place >= MOST_ROWS || place >= sizes[output]) {
                 return NONE;
             }
-            return isOutput(output) ? codes[output * MOST_ROWS + place] : NONE;
+            return codes[output * MOST_ROWS + place];
         }
 
         int decidedAt(int output, int row) {
