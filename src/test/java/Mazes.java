@@ -1,3 +1,6 @@
+import java.math.BigInteger;
+import java.util.function.Supplier;
+
 /** Short ways to make mazes and to look at them by their public face. */
 final class Mazes {
     private Mazes() {
@@ -41,7 +44,8 @@ final class Mazes {
     /** The truths (0), what is decided (1) or the answers (2) of an output, row by row. */
     static String rows(GateMaze maze, int output, int what) {
         StringBuilder rows = new StringBuilder();
-        for (int row = 0; row < 1 << maze.count(0); row++) {
+        int many = 1 << maze.count(0);
+        for (int row = 0; row < many; row++) {
             rows.append(maze.at(output, row, what));
         }
         return rows.toString();
@@ -73,40 +77,60 @@ final class Mazes {
         return numbers.toString();
     }
 
-    /** The digest as the document lists it, from what the other calls answer. */
-    static long digest(GateMaze maze, String buffer) {
-        long hash = 2423;
+    /**
+     * The digest as the document lists it, from what the other calls answer. For each output an object is made anew, so
+     * that none is called more than 512 times.
+     */
+    static long digest(Supplier<GateMaze> made, String buffer) {
+        Hash hash = new Hash();
+        GateMaze first = made.get();
         for (int what = 0; what <= 10; what++) {
-            hash = 31 * hash + maze.count(what);
+            hash.add(first.count(what));
         }
         for (int output = 0; output < 4; output++) {
-            for (int row = 0; row < 1 << maze.count(0); row++) {
-                for (int what = 0; what <= 2; what++) {
-                    hash = 31 * hash + maze.at(output, row, what);
-                }
-            }
-            for (int what = 0; what <= 10; what++) {
-                hash = 31 * hash + maze.output(output, what);
-            }
-            for (int place = 0; place < maze.output(output, 6); place++) {
-                for (int what = 0; what <= 3; what++) {
-                    hash = 31 * hash + maze.product(output, place, what);
-                }
-            }
-            hash = 31 * hash + maze.needs(output);
-            hash = 31 * hash + maze.alike(output, 0);
-            hash = 31 * hash + maze.nearest(output, 0);
+            addOutput(hash, made.get(), output);
         }
-        for (int input = 0; input < maze.count(0); input++) {
-            hash = 31 * hash + maze.ifForgotten(input, 0);
-            hash = 31 * hash + maze.ifForgotten(input, 1);
+        int inputs = first.count(0);
+        for (int input = 0; input < inputs; input++) {
+            hash.add(first.ifForgotten(input, 0));
+            hash.add(first.ifForgotten(input, 1));
         }
-        hash = 31 * hash + maze.harmless();
-        hash = 31 * hash + Double.doubleToLongBits(maze.decidedShare());
-        hash = 31 * hash + buffer.length();
+        hash.add(first.harmless());
+        hash.add(Double.doubleToLongBits(first.decidedShare()));
+        hash.add(buffer.length());
         for (char c : buffer.toCharArray()) {
-            hash = 31 * hash + c;
+            hash.add(c);
         }
-        return hash;
+        return hash.sum.longValue();
+    }
+
+    private static void addOutput(Hash hash, GateMaze maze, int output) {
+        int rows = 1 << maze.count(0);
+        for (int row = 0; row < rows; row++) {
+            for (int what = 0; what <= 2; what++) {
+                hash.add(maze.at(output, row, what));
+            }
+        }
+        for (int what = 0; what <= 10; what++) {
+            hash.add(maze.output(output, what));
+        }
+        int products = maze.output(output, 6);
+        for (int place = 0; place < products; place++) {
+            for (int what = 0; what <= 3; what++) {
+                hash.add(maze.product(output, place, what));
+            }
+        }
+        hash.add(maze.needs(output));
+        hash.add(maze.alike(output, 0));
+        hash.add(maze.nearest(output, 0));
+    }
+
+    /** The digest without overflow: its lowest 64 bits are what is due. */
+    private static final class Hash {
+        private BigInteger sum = BigInteger.valueOf(2423);
+
+        void add(long value) {
+            sum = sum.multiply(BigInteger.valueOf(31)).add(BigInteger.valueOf(value));
+        }
     }
 }

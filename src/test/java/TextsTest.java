@@ -54,7 +54,13 @@ public final class TextsTest {
         Check.same("it saves nothing", maze.count(10), 0);
         maze.append(57);
         Check.same("what is appended then stands first", maze.firstError(), 0);
-        Check.same("the digest has the new code alone", maze.digest(), Mazes.digest(maze, "9"));
+        Check.same("the digest has the new code alone", maze.digest(), Mazes.digest(TextsTest::nine, "9"));
+    }
+
+    private static GateMaze nine() {
+        GateMaze maze = new GateMaze();
+        maze.append(57);
+        return maze;
     }
 
     private static int firstErrorOf(int inputs, String text) {
@@ -219,26 +225,31 @@ public final class TextsTest {
     }
 
     private static void undoOfAll() {
+        for (int calls = 0; calls < 6; calls++) {
+            GateMaze maze = behind(6);
+            for (int undone = 6; undone > calls; undone--) {
+                maze.undo();
+            }
+            Check.same("the state of before the call " + calls, withoutSaved(maze), withoutSaved(behind(calls)));
+            Check.same("the buffer stays with undo", maze.clearBuffer(), 2);
+        }
+    }
+
+    private static GateMaze behind(int calls) {
         GateMaze maze = Mazes.of(3, "01101001", "00010111");
         maze.forget(1);
         maze.ask(3);
         maze.pass(1);
         maze.ask(4);
         Mazes.type(maze, "11");
-        long[] digests = new long[6];
-        Runnable[] calls = {
+        Runnable[] all = {
             () -> maze.begin(5), () -> maze.set(1, 3, 2), () -> maze.invert(0), () -> maze.forget(4),
             () -> maze.ask(3), () -> maze.pass(2),
         };
-        for (int i = 0; i < calls.length; i++) {
-            digests[i] = withoutSaved(maze);
-            calls[i].run();
+        for (int i = 0; i < calls; i++) {
+            all[i].run();
         }
-        for (int i = calls.length - 1; i >= 0; i--) {
-            maze.undo();
-            Check.same("the state of before the call " + i, withoutSaved(maze), digests[i]);
-        }
-        Check.same("the buffer stays with undo", maze.clearBuffer(), 2);
+        return maze;
     }
 
     /** A hash of all but the saved states. */

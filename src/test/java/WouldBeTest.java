@@ -1,3 +1,5 @@
+import java.util.function.Supplier;
+
 /** Promises 19 to 25: ifForgotten, needs, harmless, alike, nearest, decidedShare, digest. */
 public final class WouldBeTest {
     private static final Class<IndexOutOfBoundsException> OUTSIDE = IndexOutOfBoundsException.class;
@@ -157,39 +159,75 @@ public final class WouldBeTest {
         Check.same("open truths do not count", open.decidedShare(), 8.0 / 10.0);
     }
 
+    private static void digestIs(String what, Supplier<GateMaze> made, String buffer) {
+        Check.same(what, made.get().digest(), Mazes.digest(made, buffer));
+    }
+
     private static void digest() {
-        GateMaze maze = new GateMaze();
-        Check.same("digest of a new object", maze.digest(), Mazes.digest(maze, ""));
-        Check.same("digest of a new object, as the model says it", maze.digest(), new Model().digest());
-        Mazes.type(maze, "10~");
-        Check.same("digest with a buffer", maze.digest(), Mazes.digest(maze, "10~"));
-        maze.clearBuffer();
-        Check.same("digest with the buffer cleared", maze.digest(), Mazes.digest(maze, ""));
+        digestIs("digest of a new object", GateMaze::new, "");
+        Check.same("digest of a new object, as the model says it", new GateMaze().digest(), new Model().digest());
+        digestIs("digest with a buffer", () -> typed("10~"), "10~");
+        digestIs("digest with the buffer cleared", () -> {
+            GateMaze maze = typed("10~");
+            maze.clearBuffer();
+            return maze;
+        }, "");
         String[] texts = {"1-=0:1,01=1:2,-1=2:1,0-=3:2,11=3:1", "00=1:1,10=2:2,-0=0:1"};
-        GateMaze two = Mazes.of(2);
         for (String text : texts) {
-            Mazes.fill(two, text);
-            Check.same("digest of two inputs", two.digest(), Mazes.digest(two, ""));
+            digestIs("digest of two inputs", () -> two(text, 0), "");
+            digestIs("digest with an input forgotten", () -> two(text, 1), "");
+            digestIs("digest with all forgotten", () -> two(text, 2), "");
+            digestIs("digest with one remembered", () -> two(text, 3), "");
+        }
+        digestIs("digest of six inputs", () -> {
+            GateMaze six = Mazes.of(6);
+            Mazes.fill(six, "1--0--=0:1,-11---=0:1,---01-=1:2,0----1=2:1,--1-1-=3:1");
+            return six;
+        }, "");
+        digestIs("digest of one input", () -> Mazes.of(1, "01", "10", "21"), "");
+    }
+
+    private static GateMaze typed(String buffer) {
+        GateMaze maze = new GateMaze();
+        Mazes.type(maze, buffer);
+        return maze;
+    }
+
+    private static GateMaze two(String text, int steps) {
+        GateMaze two = Mazes.of(2);
+        Mazes.fill(two, text);
+        if (steps >= 1) {
             two.forget(0);
             two.ask(1);
             two.ask(2);
-            Check.same("digest with an input forgotten", two.digest(), Mazes.digest(two, ""));
+        }
+        if (steps >= 2) {
             two.pass(6);
             two.ask(3);
-            Check.same("digest with all forgotten", two.digest(), Mazes.digest(two, ""));
-            two.remember(1);
-            Check.same("digest with one remembered", two.digest(), Mazes.digest(two, ""));
-            two.remember(0);
         }
-        GateMaze six = Mazes.of(6);
-        Mazes.fill(six, "1--0--=0:1,-11---=0:1,---01-=1:2,0----1=2:1,--1-1-=3:1");
-        Check.same("digest of six inputs", six.digest(), Mazes.digest(six, ""));
-        GateMaze one = Mazes.of(1, "01", "10", "21");
-        Check.same("digest of one input", one.digest(), Mazes.digest(one, ""));
+        if (steps >= 3) {
+            two.remember(1);
+        }
+        return two;
     }
 
-    /** The bits of the shares, with 1 to 256 as divisors, are those that Double.doubleToLongBits tells. */
+    /** The bits of the shares, with 2 to 150 as divisors, are those that Double.doubleToLongBits tells. */
     private static void digestOfShares() {
+        for (int told = 2; told < 150; told += told < 12 ? 1 : 7) {
+            int many = told;
+            Check.same("the share", share(told).decidedShare(), (double) (told - 2) / told);
+            digestIs("digest of the share of " + told, () -> share(many), "");
+        }
+        for (int seldom = 1; seldom < 9; seldom++) {
+            int many = seldom;
+            double low = lowShare(seldom).decidedShare();
+            Check.holds("a low share", low > 0.0 && low < 0.1);
+            digestIs("digest of a low share", () -> lowShare(many), "");
+        }
+    }
+
+    /** So many truths are 0 or 1; two of them are undecided. */
+    private static GateMaze share(int told) {
         GateMaze maze = Mazes.of(6);
         for (int output = 0; output < 4; output++) {
             Mazes.fill(maze, "------=" + output + ":2");
@@ -197,33 +235,25 @@ public final class WouldBeTest {
         maze.set(0, 0, 0);
         maze.set(0, 1, 1);
         maze.forget(0);
-        Check.same("the share 0", maze.decidedShare(), 0.0);
-        Check.same("digest of the share 0", maze.digest(), Mazes.digest(maze, ""));
-        int told = 2;
-        for (int output = 1; output < 4; output++) {
-            for (int row = 0; row < 64 && told < 150; row++) {
-                maze.set(output, row, 0);
-                told++;
-                if (told % 7 == 0 || told < 12) {
-                    Check.same("the share", maze.decidedShare(), (double) (told - 2) / told);
-                    GateMaze same = maze;
-                    Check.same("digest of the share", same.digest(), Mazes.digest(same, ""));
-                }
-            }
+        for (int i = 2; i < told; i++) {
+            maze.set(1 + (i - 2) / 64, (i - 2) % 64, 0);
         }
-        for (int seldom = 1; seldom < 9; seldom++) {
-            GateMaze low = Mazes.of(6);
-            for (int output = 0; output < 4; output++) {
-                Mazes.fill(low, seldom % 2 == 0 ? "1-----=" + output + ":1" : "-----1=" + output + ":1");
-            }
-            low.forget(seldom % 2 == 0 ? 0 : 5);
-            for (int row = 0; row < seldom; row++) {
-                low.set(0, row, 0);
-                low.set(0, row ^ (seldom % 2 == 0 ? 1 : 32), 2);
-            }
-            Check.holds("a low share", low.decidedShare() > 0.0 && low.decidedShare() < 0.1);
-            Check.same("digest of a low share", low.digest(), Mazes.digest(low, ""));
+        return maze;
+    }
+
+    /** So few pairs are decided. */
+    private static GateMaze lowShare(int seldom) {
+        GateMaze low = Mazes.of(6);
+        int forgotten = seldom % 2 == 0 ? 0 : 5;
+        for (int output = 0; output < 4; output++) {
+            Mazes.fill(low, (forgotten == 0 ? "1-----=" : "-----1=") + output + ":1");
         }
+        low.forget(forgotten);
+        for (int row = 0; row < seldom; row++) {
+            low.set(0, row, 0);
+            low.set(0, row ^ 1 << forgotten, 2);
+        }
+        return low;
     }
 
     private static void nothingChanges() {
